@@ -1344,41 +1344,16 @@ public final class NoonBell {
         void readCity(City city) {
             city.clear();
             for (int k = 0; k <= MOST_STATEMENTS && fine() && kinds.get(at) != STOP; k++) {
-                if (k == MOST_STATEMENTS) {
-                    fail(5, here());
-                } else {
-                    readStatement(city);
-                    takeSign(';');
-                    city.statements++;
-                }
-            }
-        }
-
-        private void readStatement(City city) {
-            int word = word();
-            if (isTooMany(city, word)) {
-                fail(5, here());
-                return;
-            }
-            switch (word) {
-                case PERSON: case TASK:
-                    readGiven(city, word);
-                    break;
-                case DOES:
-                    readDuty(city);
-                    break;
-                case COVERS:
-                    readCover(city);
-                    break;
-                case KNOWS:
-                    readKnowing(city);
-                    break;
-                case LEARN: case FORGET: case CAN: case NOTICE:
-                    readRule(city, word);
-                    break;
-                default:
-                    fail(1, here());
-                    break;
+                int word = word();
+                if (k == MOST_STATEMENTS || isTooMany(city, word)) fail(5, here());
+                else if (word == PERSON || word == TASK) readGiven(city, word);
+                else if (word == DOES) readDuty(city);
+                else if (word == COVERS) readCover(city);
+                else if (word == KNOWS) readKnowing(city);
+                else if (word >= LEARN && word <= NOTICE) readRule(city, word);
+                else fail(1, here());
+                takeSign(';');
+                city.statements++;
             }
         }
 
@@ -1498,7 +1473,7 @@ public final class NoonBell {
         }
 
         private void readFact(int open) {
-            if (!fine()) return;
+            if (!fine() || open > MOST_OPEN) return;
             if (isWord(NOT)) {
                 takeOpening(open);
                 readFact(open + 1);
@@ -1547,7 +1522,7 @@ public final class NoonBell {
         }
 
         private void readPart(int open) {
-            if (!fine()) return;
+            if (!fine() || open > MOST_OPEN) return;
             int word = word();
             if (kinds.get(at) == NUMBER) {
                 out.write(Formula.NUMBER, takeNumber(MOST_NUMBER));

@@ -183,6 +183,10 @@ final class FaultTest {
         after("learn ((((((1))))))+(((((((", 4, 26);
         after("learn ((((((min(1,2)))))));", 4, 15);
         after("learn min(min(min(min(min(min(min(1,", 4, 33);
+        after("learn min(1,((((((1", 4, 17);
+        after("learn ((((max(((1", 4, 15);
+        after("learn ((((max(2,((1", 4, 17);
+        good(AB + "learn ((((max((2),(1))))))+((((((3))))));", 4);
         after("can not not not not not not not all;", 4, 28);
         after("can [[[[[[[all]]]]]]];", 4, 10);
         after("can not[not[not[(1)=1]]];", 4, 16);

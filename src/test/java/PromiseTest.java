@@ -104,6 +104,33 @@ final class PromiseTest {
         Check.city(bell, TWO + "does a t at 13;does b t at 13;can all;");
         bell.bells(1);
         Check.same("who was called", bell.kept(0, 2), called);
+        nothingOfOthers();
+    }
+
+    /** A CITY has nothing of those ahead of it. */
+    private static void nothingOfOthers() {
+        NoonBell bell = new NoonBell();
+        for (int k = 0; k < 4; k++) Check.same("city", Check.city(bell, ANN), 21);
+        String text = "person x ward 5;person y ward 6;task q hard 2;does y q at 23;covers x y;";
+        Check.same("city", Check.city(bell, text), 5);
+        int[] has = {2, 1, 1};
+        for (int k = 0; k < 3; k++) Check.same("has " + k, bell.has(k), has[k]);
+        int[][] due = {{5, 0, NONE, 1, NONE, 0, 0}, {6, 1, NONE, NONE, 0, 1, 1}};
+        for (int p = 0; p < 2; p++) {
+            for (int what = 0; what < 7; what++) Check.same("person " + p + " " + what, bell.person(p, what), due[p][what]);
+        }
+        Check.same("points", bell.points(1, 0), 0);
+        Check.same("without can", bell.could(0, 1, 0, 0), 1);
+        bell.watch(0, 1);
+        bell.teach(1, 0, 50);
+        bell.call(1);
+        bell.go(23);
+        Check.same("without notice and learn", bell.has(7) + bell.points(0, 1), 0);
+        bell.go(1);
+        Check.same("without forget", bell.points(1, 0), 50);
+        Check.same("city", Check.city(bell, text + "can hard=2 and clock=23;"), 6);
+        Check.same("the new hard", bell.could(0, 1, 0, 23), 1);
+        Check.same("the new DUTY", bell.best(1, 1), 1);
     }
 
     private static void has() {
@@ -229,6 +256,9 @@ final class PromiseTest {
         Check.same("forty at most", bell.has(7), 40);
         Check.same("the oldest", bell.kept(0, 0), 2);
         Check.same("the latest", bell.kept(39, 0), 41);
+        Check.same("ahead of the oldest", bell.kept(-1, 0), NONE);
+        Check.same("behind the latest", bell.kept(40, 0), NONE);
+        Check.same("another part", bell.kept(0, 4), NONE);
         Check.same("which", bell.kept(39, 1), 1);
         Check.same("who", bell.kept(39, 3), 1);
         bell.undo();
@@ -267,7 +297,63 @@ final class PromiseTest {
         Check.same("first night", bell.points(0, 1), 26);
         bell.go(24);
         Check.same("second night", bell.points(0, 1), 15);
+        order();
+        whoNotices();
         lessons();
+    }
+
+    /** DUTIES by LIVES, then as they are told. */
+    private static void order() {
+        NoonBell bell = Check.of("person a ward 1;person b ward 1;person c ward 1;task t hard 1;task u hard 50;covers c b;knows c b 9;"
+                + "does c u at 2;does b u at 2;does c t at 2;does a t at 2;does b t at 2;does a u at 2;can points>hard and own=0;notice all;");
+        int[] duties = {2, 2, 2};
+        for (int p = 0; p < 3; p++) Check.same("DUTIES", bell.person(p, 5), duties[p]);
+        bell.call(1);
+        bell.go(2);
+        // a dries both; b's u is dried by c ahead of t, that a notices; c's are left
+        int[][] due = {{1, 0, 0}, {1, 0, 0}, {1, 1, 2}, {2, 1, 0}, {0, 2, NONE}, {0, 2, NONE}};
+        Check.same("KEPT", bell.has(7), due.length);
+        for (int k = 0; k < due.length; k++) {
+            for (int what = 0; what < 3; what++) Check.same("kept " + k, bell.kept(k, what + 1), due[k][what]);
+        }
+    }
+
+    /** Not who lives it, not who owns it, nobody who is away; and nobody a LIFE that is one's own. */
+    private static void whoNotices() {
+        NoonBell bell = Check.of("person z ward 1;person a ward 1;person b ward 1;person c ward 1;person d ward 1;task t hard 1;"
+                + "does b t at 2;does d t at 2;covers b a;covers c b;notice all;");
+        bell.call(1);
+        bell.go(2);
+        // b lives a's LIFE and c b's: b's task is noticed by z and d, d's own one by nobody
+        int[] who = {0, 4};
+        Check.same("KEPT", bell.has(7), 2);
+        for (int k = 0; k < 2; k++) {
+            Check.same("NOTICED", bell.kept(k, 1), 2);
+            Check.same("LIFE", bell.kept(k, 2), 2);
+            Check.same("who", bell.kept(k, 3), who[k]);
+        }
+        // by the points of who lives it, the HOUR's clock and day, and one's ward and the owner's
+        String city = "person a ward 1;person b ward 2;person c ward 1;person d ward 2;task t hard 1;does a t at 2;covers b a;"
+                + "knows b a 20;knows c a 30;knows d a 40;";
+        String[] tests = {"points=20", "theirs=30", "same=1", "same=0", "clock=2", "day=1", "clock=3", "theirs>points+15"};
+        int[] noticed = {12, 4, 4, 8, 12, 0, 0, 8};
+        for (int k = 0; k < tests.length; k++) {
+            bell = Check.of(city + "notice " + tests[k] + ";");
+            bell.call(0);
+            bell.go(2);
+            int bits = 0;
+            for (int j = 0; j < bell.has(7); j++) bits |= 1 << bell.kept(j, 3);
+            Check.same("noticed by " + tests[k], bits, noticed[k]);
+        }
+        bell = Check.of(city + "notice day=1;");
+        bell.go(24);
+        bell.call(0);
+        bell.go(2);
+        Check.same("on day 1", bell.has(7), 2);
+        bell = Check.of(city);
+        bell.call(0);
+        bell.go(2);
+        Check.same("nobody without notice", bell.has(7), 0);
     }
 
     private static void lessons() {
@@ -355,6 +441,12 @@ final class PromiseTest {
         Check.same("watching: 8 at clock 5, 42 at 23", bell.would(0, 1), 1);
         bell.teach(1, 0, 2);
         Check.same("10 at clock 5", bell.would(0, 1), 0);
+        // this day alone: the DUTY at 0 is not met any more
+        bell = Check.of(TWO + "does b t at 0;does b t at 1;does b t at 23;can not all;");
+        for (int hour = 0; hour <= 23; hour++) {
+            Check.same("DRIED from " + hour, bell.would(0, 1), hour == 0 ? 2 : hour < 23 ? 1 : 0);
+            bell.go(1);
+        }
         late();
     }
 
@@ -371,6 +463,9 @@ final class PromiseTest {
         bell.call(0);
         Check.same("first", bell.first(0), 9999);
         Check.same("go", bell.go(1), 9999);
+        Check.same("image", bell.image(), 11);
+        Check.same("HOUR in the image", bell.octet(0), 39);
+        Check.same("HOUR in the image", bell.octet(1), 15);
         Check.same("would at the end", bell.would(1, 0), 0);
         Check.same("first at the end", bell.first(0), NONE);
         Check.same("ask one HOUR", Check.ask(bell, 0, "total hour"), 9999);
@@ -477,7 +572,13 @@ final class PromiseTest {
         Check.same("a's LIFE", bell.change(0), 2);
         Check.same("b's LIFE", bell.change(1), 0);
         Check.same("c's LIFE", bell.change(2), 1);
+        bell.teach(1, 2, 0);
+        Check.same("DRIED now", bell.change(NONE), 3);
+        Check.same("a's LIFE now", bell.change(0), 1);
+        Check.same("b's LIFE now", bell.change(1), 2);
+        Check.same("c's LIFE now", bell.change(2), 0);
         bell = Check.of("person a ward 1;person b ward 1;person c ward 1;person d ward 1;");
+        Check.same("no DUTIES", bell.change(NONE), 0);
         int[] first = {1, 0, 3, 2};
         for (int k = 0; k < 4; k++) Check.same("the first of like ones", bell.change(k), first[k]);
     }
@@ -713,9 +814,11 @@ final class PromiseTest {
         Check.same("no row", slipsOf(bell, 0), NONE);
         Check.same("no LIFE", slipsOf(bell, 4, 0, 0, 0), NONE);
         Check.same("no LIFE", slipsOf(bell, -1, 0, 0, 0), NONE);
-        Check.same("a later row", slipsOf(bell, 0, 0, 0, 0, 0, 255, 0), NONE);
+        Check.same("a later task", slipsOf(bell, 0, 0, 0, 0, 0, 255, 0), NONE);
+        Check.same("a later clock", slipsOf(bell, 0, 0, 0, 0, 24, 0, 0), NONE);
+        Check.same("a later done", slipsOf(bell, 0, 0, 0, 0, 0, 0, 2), NONE);
         Check.same("21 rows", slipsOf(bell, 0, new int[63]), NONE);
-        Check.same("refused", bell.status(1), 9);
+        Check.same("refused", bell.status(1), 11);
         Check.same("all stays", bell.who(), 2);
         bell.teach(1, 0, 61);
         Check.same("by the points of now", bell.who(), 0);
@@ -751,11 +854,15 @@ final class PromiseTest {
         String[] texts = {"first life=1", "often life=0", "last life=0", "total dries", "first dries>0", "most points 0",
             "least points 0", "first life=3", "last not all", "often not all", "total 9999*9999", "least 0-9999*9999",
             "most hour", "least hour", "most clock", "most day", "total life", "first points life=70", "most points 1",
-            "total points 9", "total points(0-1)", "first hour>20 and clock<3", "often hour=2 or hour=49 or hour=50", "last all"};
+            "total points 9", "total points(0-1)", "first hour>20 and clock<3", "often hour=2 or hour=49 or hour=50", "last all",
+            "least clock", "first clock=2", "first day=0", "most 100-hour", "most 0-1-hour", "least 0-hour", "most 0-points 0"};
         long[] dues = {24, 22, 23, 1, 20, 40, 33, -1, -1, 0, 48000000, -1000000,
-            49, 2, 23, 2, 26, -1, 99, 0, 0, 24, 2, 49};
+            49, 2, 23, 2, 26, -1, 99, 0, 0, 24, 2, 49, 0, 2, 2, 98, -3, -49, -33};
         for (int k = 0; k < texts.length; k++) Check.same(texts[k], Check.ask(bell, 1, texts[k]), dues[k]);
         Check.same("fault", bell.fault(0), 0);
+        bell.could(0, 0, 0, 23);
+        Check.same("the clock of now", Check.ask(bell, 1, "first clock=23"), 23);
+        Check.same("the longest QUESTION", Check.ask(bell, 1, "least 1" + "+1".repeat(796) + " "), 797);
         Check.same("away", Check.ask(bell, 0, "often life=99"), 22);
         Check.same("away: no LIFE's points", Check.ask(bell, 0, "first points life>0"), 24);
         Check.same("HOUR", bell.has(3), 2);
@@ -799,6 +906,14 @@ final class PromiseTest {
         Check.same("refused", bell.status(5), 0);
         Check.same("image again", bell.image(), due.length);
         Check.same("the latest image", bell.octet(1), 45);
+        StringBuilder text = new StringBuilder();
+        for (int k = 0; k < 10; k++) text.append("person ").append((char) ('a' + k)).append(" ward 0;");
+        bell = Check.of(text.append("knows j i 55;").toString());
+        Check.same("the largest image", bell.image(), 123);
+        Check.same("the last points but one", bell.octet(120), 55);
+        Check.same("the last points", bell.octet(121), 99);
+        Check.yes("its last byte", bell.octet(122) >= 0);
+        Check.yes("is one", on(bell, imageOf(bell)));
     }
 
     private static boolean on(NoonBell bell, int... bytes) {
@@ -822,7 +937,10 @@ final class PromiseTest {
         Check.same("away", bell.person(0, 1), NONE);
         Check.same("bob lives ann's", bell.person(1, 1), 0);
         Check.same("cid watches ann's", bell.person(2, 2), 0);
-        Check.same("points", bell.points(2, 0), 50);
+        int[][] points = {{99, 0, 0, 0}, {40, 99, 0, 0}, {50, 70, 99, 0}, {0, 0, 10, 99}};
+        for (int p = 0; p < 4; p++) {
+            for (int life = 0; life < 4; life++) Check.same("points", bell.points(p, life), points[p][life]);
+        }
         Check.same("KEPT", bell.has(7), 0);
         Check.same("ACTS", bell.has(8), 0);
         Check.yes("SLIPS", bell.who() != NONE);
@@ -840,7 +958,7 @@ final class PromiseTest {
         bell.on();
         int[][] bad = {
             checked(39, 16, 1, 0, 99, 0, 2, 0, 0, 99, 0), checked(0, 7, 3, 0, 99, 0, 2, 0, 0, 99, 0),
-            checked(0, 7, 2, 0, 99, 0, 2, 0, 0, 99, 0), checked(0, 7, 1, 1, 99, 0, 2, 0, 0, 99, 0),
+            checked(0, 7, 2, 0, 99, 0, 2, 0, 0, 99, 0), checked(0, 7, 1, 0, 99, 0, 1, 0, 0, 99, 0), checked(0, 7, 1, 1, 99, 0, 2, 0, 0, 99, 0),
             checked(0, 7, 1, 3, 99, 0, 2, 0, 0, 99, 0), checked(0, 7, 1, 0, 98, 0, 2, 0, 0, 99, 0),
             checked(0, 7, 1, 0, 99, 100, 2, 0, 0, 99, 0), checked(0, 7, 1, 0, 99, 0, 2, 2, 0, 99, 0),
             checked(0, 7, 1, 0, 99, 0, 2, 0, 0, 99, 0, 0), checked(0, 7, 1, 0, 99, 0, 2, 0, 0, 0),
