@@ -110,12 +110,12 @@ final class PromiseTest {
     /** A CITY has nothing of those ahead of it. */
     private static void nothingOfOthers() {
         NoonBell bell = new NoonBell();
-        for (int k = 0; k < 4; k++) Check.same("city", Check.city(bell, ANN), 21);
-        String text = "person x ward 5;person y ward 6;task q hard 2;does y q at 23;covers x y;";
+        for (int k = 0; k < 4; k++) Check.same("city", Check.city(bell, ANN + "covers ann dan;"), 22);
+        String text = "person x ward 5;person y ward 6;task q hard 2;does y q at 23;covers y x;";
         Check.same("city", Check.city(bell, text), 5);
         int[] has = {2, 1, 1};
         for (int k = 0; k < 3; k++) Check.same("has " + k, bell.has(k), has[k]);
-        int[][] due = {{5, 0, NONE, 1, NONE, 0, 0}, {6, 1, NONE, NONE, 0, 1, 1}};
+        int[][] due = {{5, 0, NONE, NONE, 1, 0, 0}, {6, 1, NONE, 0, NONE, 1, 1}};
         for (int p = 0; p < 2; p++) {
             for (int what = 0; what < 7; what++) Check.same("person " + p + " " + what, bell.person(p, what), due[p][what]);
         }
@@ -123,10 +123,10 @@ final class PromiseTest {
         Check.same("without can", bell.could(0, 1, 0, 0), 1);
         bell.watch(0, 1);
         bell.teach(1, 0, 50);
-        bell.call(1);
-        bell.go(23);
+        bell.call(0);
+        bell.go(22);
         Check.same("without notice and learn", bell.has(7) + bell.points(0, 1), 0);
-        bell.go(1);
+        bell.go(2);
         Check.same("without forget", bell.points(1, 0), 50);
         Check.same("city", Check.city(bell, text + "can hard=2 and clock=23;"), 6);
         Check.same("the new hard", bell.could(0, 1, 0, 23), 1);
@@ -854,7 +854,7 @@ final class PromiseTest {
         String[] texts = {"first life=1", "often life=0", "last life=0", "total dries", "first dries>0", "most points 0",
             "least points 0", "first life=3", "last not all", "often not all", "total 9999*9999", "least 0-9999*9999",
             "most hour", "least hour", "most clock", "most day", "total life", "first points life=70", "most points 1",
-            "total points 9", "total points(0-1)", "first hour>20 and clock<3", "often hour=2 or hour=49 or hour=50", "last all",
+            "total points 10", "total points(0-1)", "first hour>20 and clock<3", "often hour=2 or hour=49 or hour=50", "last all",
             "least clock", "first clock=2", "first day=0", "most 100-hour", "most 0-1-hour", "least 0-hour", "most 0-points 0"};
         long[] dues = {24, 22, 23, 1, 20, 40, 33, -1, -1, 0, 48000000, -1000000,
             49, 2, 23, 2, 26, -1, 99, 0, 0, 24, 2, 49, 0, 2, 2, 98, -3, -49, -33};
