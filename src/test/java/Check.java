@@ -1,16 +1,24 @@
+import java.util.List;
+
 /** Counts and prints what is not as it should be; every test's main ends with end(). */
 final class Check {
     private static int asked = 0;
     private static int wrong = 0;
+    private static String sentence = "";
 
     private Check() {
+    }
+
+    /** The sentence of the document that the answers from here on are about. */
+    static void sentence(String words) {
+        sentence = "[" + words + "] ";
     }
 
     static void same(String what, long got, long want) {
         asked++;
         if (got != want) {
             wrong++;
-            System.out.println(what + ": answered " + got + ", due is " + want);
+            System.out.println(sentence + what + ": answered " + got + ", due is " + want);
         }
     }
 
@@ -20,6 +28,18 @@ final class Check {
 
     static void no(String what, boolean got) {
         same(what, got ? 1 : 0, 0);
+    }
+
+    /** Each answer told as a text; the first one that is not alike is printed. */
+    static void alike(String what, List<String> got, List<String> want) {
+        asked++;
+        if (got.equals(want)) return;
+        wrong++;
+        int k = 0;
+        while (k < got.size() && k < want.size() && got.get(k).equals(want.get(k))) k++;
+        String one = k < got.size() ? got.get(k) : "nothing";
+        String other = k < want.size() ? want.get(k) : "nothing";
+        System.out.println(sentence + what + ": told " + one + ", due is " + other);
     }
 
     static void end(String test) {
