@@ -669,6 +669,10 @@ final class StateEdgeTest {
         Check.same("clock 0", at(now, 48).study(0, 1), NONE);
         Check.same("day 1", at(now, 47).study(0, 1), NONE);
         Check.same("another day", at(now, 72 + 10).study(0, 1), NONE);
+        String each = TWO + "does b t at 0;does b t at 23;learn points+1;can points>clock;";
+        Check.same("each DUTY at its own clock", at(each, 5).study(0, 1), 24);
+        Check.same("each DUTY at its own clock", at(each + "knows a b 23;", 5).study(0, 1), 1);
+        Check.same("each DUTY at its own clock", at(each + "knows a b 24;", 5).study(0, 1), 0);
     }
 
     private static void changes() {
@@ -745,6 +749,15 @@ final class StateEdgeTest {
         Check.same("none", bell.who(), 0);
         Twins.slips(bell, 3, 6, 0, 1, 5, 0, 0);
         Check.same("each row", bell.who(), 1015);
+        bell.teach(4, 3, 98);
+        bell.teach(5, 3, 99);
+        Twins.slips(bell, 3, 6, 0, 1);
+        Check.same("99 are not below hard 0 and 99", bell.who(), 1023 - 32);
+        Twins.slips(bell, 3, 6, 1, 1);
+        Check.same("but below hard 99 and 99: by its TASK", bell.who(), 1023);
+        bell.teach(4, 3, 0);
+        bell.teach(5, 3, 0);
+        Twins.slips(bell, 3, 6, 0, 1, 5, 0, 0);
         bell.teach(4, 3, 99);
         Check.same("by the points of now", bell.who(), 1015 - 16);
         bell.go(24);
@@ -765,6 +778,9 @@ final class StateEdgeTest {
             Check.same("none", Check.ask(at(TWO, now), 0, "often hour>" + (now + 47)), 0);
         }
         Check.same("HOUR 0 as a number", Check.ask(Check.of(TWO), 0, "last hour=0"), 0);
+        NoonBell bell = at(TWO + "can clock=9;", 30);
+        bell.could(0, 0, 0, 9);
+        Check.same("the clock of now, 0 AHEAD", Check.ask(bell, 0, "first clock=6"), 30);
     }
 
     private static void totals() {
@@ -774,6 +790,16 @@ final class StateEdgeTest {
             "least 0-9999*9999", "total 0", "most 0-1-hour", "least 1+hour", "total 0-1", "most 5-hour", "least 5-hour", "most hour-hour"};
         long[] due = {48000000, -48000000, 1000000, 1000000, -1000000, -1000000, 0, -1, 1, -48, 5, -42, 0};
         for (int k = 0; k < asked.length; k++) Check.same(asked[k], Check.ask(bell, 0, asked[k]), due[k]);
+    }
+
+    private static void fiveHundredTwelve() {
+        Check.sentence("An object is used for at most 512 calls after it has been made");
+        NoonBell bell = new NoonBell();
+        for (int k = 1; k < 512; k++) Check.same("call " + k, bell.go(1), k);
+        Check.yes("the 512th one", bell.undo());
+        bell = new NoonBell();
+        for (int k = 1; k < 512; k++) bell.go(0);
+        Check.same("the 512th one", bell.status(2), 511);
     }
 
     private static void whereOneIs() {
@@ -866,6 +892,7 @@ final class StateEdgeTest {
         whoItWas();
         fortyEight();
         totals();
+        fiveHundredTwelve();
         whereOneIs();
         driesOfNow();
         Check.end("StateEdgeTest");
