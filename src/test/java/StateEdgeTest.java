@@ -222,6 +222,11 @@ final class StateEdgeTest {
         Check.same("-10 to the 6", at(TWO + "knows a b 5;forget 0-9999*9999;", 24).points(0, 1), 0);
         Check.same("his own stay", at(TWO + "forget 0;", 24).points(1, 1), 99);
         Check.same("his own stay", at(TWO + "forget 200;", 24).points(1, 0), 99);
+        Check.same("of ten PEOPLE the last one's", at(people(10) + "knows j a 50;forget points-1;", 24).points(9, 0), 49);
+        NoonBell bell = at(people(10) + "forget points*2+1;", 72);
+        for (int p = 0; p < 10; p++) {
+            for (int life = 0; life < 10; life++) Check.same("each one's of each, once a night", bell.points(p, life), p == life ? 99 : 7);
+        }
         Check.same("by clock 0, the new day", at(TWO + "forget points+clock+day*3;", 48).points(0, 1), 9);
     }
 
@@ -662,6 +667,8 @@ final class StateEdgeTest {
         Check.same("from 93 to 86", Check.of(round + "86;knows a b 93;").study(0, 1), 99);
         Check.same("from 93 to 93", Check.of(round + "93;knows a b 93;").study(0, 1), 0);
         Check.same("two steps, to and fro", Check.of(TWO + "does b t at 1;learn 1-points;can points=2;").study(0, 1), NONE);
+        Check.same("without learn they stay as they are", Check.of(TWO + "does b t at 1;can points<5;knows a b 9;").study(0, 1), NONE);
+        Check.same("without learn they stay as they are", Check.of(TWO + "does b t at 1;can points=9;knows a b 9;").study(0, 1), 0);
         Check.sentence("III: STUDY: clock as it is now in each, this day, points from now on");
         String now = TWO + "does b t at 1;learn points+clock;can points>19 and day=2;";
         Check.same("clock 10", at(now, 58).study(0, 1), 2);
