@@ -501,6 +501,11 @@ final class TextEdgeTest {
         String text = people(10) + tasks(8);
         good(text + " ".repeat(1600 - text.length()));
         bad(1, text + " ".repeat(1599 - text.length()) + "^x");
+        good(" ".repeat(1600));
+        bad(1, " ".repeat(1599) + "^x");
+        bad(1, "\n ".repeat(799) + "\n^;");
+        badAsk(1, " ".repeat(1600) + "^");
+        badAsk(1, "total 1" + " ".repeat(1592) + "^1");
         String sum = "learn 1" + "+1".repeat((1600 - 8) / 2) + ";";
         Check.same("its length", sum.length(), 1600);
         good(sum);
