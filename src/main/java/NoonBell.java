@@ -699,8 +699,10 @@ public final class NoonBell {
             }
         }
 
+        // compares by itself: a ninth call, even one of the library, would be one too deep here
         private static int held(long value) {
-            return (int) Math.max(-MOST_SUM, Math.min(MOST_SUM, value));
+            if (value > MOST_SUM) return MOST_SUM;
+            return value < -MOST_SUM ? -MOST_SUM : (int) value;
         }
     }
 
